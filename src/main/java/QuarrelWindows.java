@@ -925,7 +925,7 @@ public final class QuarrelWindows {
             return turnAll();
         }
 
-        void wait(int mornings) {
+        void letPass(int mornings) {
             for (int morning = 0; morning < mornings; morning++) {
                 changeAngers();
             }
@@ -1092,7 +1092,7 @@ public final class QuarrelWindows {
             for (int by = 1; by <= GREATEST_QUARREL; by++) {
                 trial.copyFrom(now);
                 trial.provoke(a, b, by);
-                trial.wait(mornings);
+                trial.letPass(mornings);
                 if (trial.frontOf(a) == b) {
                     return by;
                 }
@@ -1102,7 +1102,7 @@ public final class QuarrelWindows {
 
         void findWall(Square now, int mornings) {
             trial.copyFrom(now);
-            trial.wait(mornings);
+            trial.letPass(mornings);
             wallPair = NONE;
             wallRiver = trial.countAtRiver();
             for (int pair = 0; pair < PAIRS; pair++) {
@@ -1111,7 +1111,7 @@ public final class QuarrelWindows {
                 if (now.areTwo(a, b) && now.wallBetween(a, b) == 0) {
                     trial.copyFrom(now);
                     trial.setWall(a, b, 1);
-                    trial.wait(mornings);
+                    trial.letPass(mornings);
                     weighWall(pair, trial.countAtRiver());
                 }
             }
@@ -1200,7 +1200,7 @@ public final class QuarrelWindows {
         private static boolean calms(Peacemaker maker, int few, int depth, int from) {
             Square square = maker.behind(depth);
             if (depth >= few || depth >= MOST_PEACES) {
-                square.wait(maker.mornings);
+                square.letPass(maker.mornings);
                 return maker.isCalm(square);
             }
             Square next = maker.behind(depth + 1);

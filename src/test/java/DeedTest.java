@@ -97,6 +97,10 @@ public final class DeedTest {
         Due.refuses("of house -1", x, y -> y.tenant(-1, 0), QuarrelWindows.UNKNOWN);
         Due.refuses("kind 5", x, y -> y.tenant(0, 5), QuarrelWindows.OUTSIDE);
         Due.refuses("kind -1", x, y -> y.tenant(0, -1), QuarrelWindows.OUTSIDE);
+        x = Due.square("h1,h2,h3,h4,h5,t6;502511523534545054");
+        Due.is("a tenant of the last of six", x.tenant(5, 2), 1);
+        Due.is("angry at nobody", x.house(5, 4), 0);
+        Due.is("who is angry at it", x.house(5, 3), 1);
         x = Due.square("h1,t2,h3;011121201");
         x.morning();
         x.tenant(0, 2);
@@ -117,6 +121,10 @@ public final class DeedTest {
         x = Due.square("h1,h2,h3,h4;013122231304");
         Due.is("a court of four", x.court(), 4);
         Due.is("no angers", x.count(1), 0);
+        x = Due.square("h1,h2,h3,h4;014121231311");
+        Due.is("a court of a ring without 0", x.court(), 3);
+        Due.is("0, which leads into it", x.anger(0, 1), 4);
+        Due.is("all others", x.count(1), 1);
         x = Due.square("h1,h2,h3;013102");
         Due.refuses("two that stare", x, y -> y.court(), QuarrelWindows.STATE);
     }

@@ -178,14 +178,19 @@ public final class PageTest {
     }
 
     private static void anotherSquare() {
-        QuarrelWindows x = Due.square("f1,f2,f3,f4;017106129238");
+        QuarrelWindows x = Due.square("f1,f2,f3,f4;019129209");
+        x.morning();
+        x.peace(1, 2);
+        x.quarrel(1, 0, 9);
+        x.morning();
+        Due.is("torn", x.count(13), 2);
+        Due.is("costs", x.count(14), 3);
         x.build(2, 3, true);
         x.quarrel(0, 2, 3);
         x.peace(0, 2);
         x.see(0, 1, 1);
         x.calm(1, 0, 0);
         x.arbiter(1, 0);
-        Due.mornings(x, 2);
         x.image();
         Due.type(x, "h1,h2,h3");
         Due.refuses("square of no square", x, y -> y.square(), QuarrelWindows.STATE);
@@ -199,6 +204,8 @@ public final class PageTest {
             Due.is("count(" + what + ") of another square", x.count(what), due[what]);
         }
         Due.is("house 3 is gone", x.house(3, 0), QuarrelWindows.UNKNOWN);
+        Due.is("nothing is torn", x.house(0, 9) + x.house(1, 9), 0);
+        Due.is("no cost", x.house(0, 10) + x.house(2, 10), 0);
         Due.is("its image is gone", x.restore(), QuarrelWindows.STATE);
         Due.is("its walls are gone", x.wall(1, 2), 0);
         Due.type(x, "t4,m5,s6,h7;");

@@ -106,6 +106,17 @@ public final class SeenTest {
         span(x, 0, 1, 2, 9, 10, 0);
         x.see(1, 0, 0);
         span(x, 0, 1, 0, -1, -1, -1);
+        x.forget();
+        x.see(0, -1, 1);
+        x.see(0, 1, 0);
+        span(x, 0, 1, 2, 1, 2, 0);
+        x = Due.square("s1,h2,h3;021");
+        x.see(0, 1, 0);
+        span(x, 0, 1, 1, 1, 1, 0);
+        // Of six, the last one: it fronts that by 4 and more, else 4.
+        x = Due.square("h1,h2,h3,h4,h5,h6;043");
+        x.see(0, 5, 3);
+        span(x, 0, 5, 17, 4, 20, 0);
         // By 1 to 3 it fronts 1 now, by 0 and above 3 it fronts 2; the later, the more of these have turned.
         x = Due.square("s1,h2,h3;023");
         span(x, 0, 1, 21, 0, 20, 5);

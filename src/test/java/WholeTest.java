@@ -7,6 +7,8 @@ public final class WholeTest {
         imageRefusals();
         counts();
         countsOfAll();
+        imagesOfWhatIsSeen();
+        imagesOfCosts();
         digests();
         Due.end();
     }
@@ -19,15 +21,18 @@ public final class WholeTest {
         Due.is("FULL", QuarrelWindows.FULL, -104);
     }
 
+    /** A square where each image keeps something of every kind: here of a ring, a stare and of walls. */
     private static QuarrelWindows lived() {
-        QuarrelWindows x = Due.square("f3,t5,h2,m7,s4,h1;014105231341424501");
+        QuarrelWindows x = Due.square("f3,t5,h2,m7,s4,h1;014105231349424501");
         x.build(0, 3, true);
         x.quarrel(5, 2, 6);
         x.quarrel(5, 3, 2);
         x.peace(5, 0);
-        x.see(0, 1, 2);
-        x.see(2, -1, 4);
+        x.see(1, 0, 2);
+        x.see(4, -1, 4);
         Due.mornings(x, 3);
+        Due.is("some are torn", x.count(13), 6);
+        Due.is("some have costs", x.count(14), 9);
         return x;
     }
 
@@ -90,6 +95,37 @@ public final class WholeTest {
         Due.is("squares count on", x.count(17), 1);
         Due.is("what is seen", x.forget(), 2);
         Due.is("what is seen behind restore", x.restore() + x.count(15), 5);
+    }
+
+    private static void imagesOfWhatIsSeen() {
+        QuarrelWindows x = Due.square("m1,m2,h3;");
+        x.see(1, -1, 2);
+        x.see(1, 0, 1);
+        Due.is("span", x.span(1, 0, 1) * 100 + x.span(1, 0, 2), 304);
+        x.image();
+        x.forget();
+        x.see(0, 1, 0);
+        x.see(0, 2, 0);
+        x.see(0, 2, 0);
+        Due.is("nothing can be so", x.span(1, 0, 0), 0);
+        x.restore();
+        Due.is("what was seen", x.count(15), 2);
+        Due.is("span as it was", x.span(1, 0, 1) * 100 + x.span(1, 0, 2), 304);
+        x.see(1, 0, 0);
+        x.restore();
+        Due.is("the image has no part in what is seen later", x.count(15), 2);
+    }
+
+    private static void imagesOfCosts() {
+        QuarrelWindows x = Due.square("h1,h2,h3,h4,h5;011121201341431");
+        x.morning();
+        x.image();
+        Due.mornings(x, 2);
+        Due.is("costs now", x.count(14), 9);
+        Due.is("torn now", x.count(13), 6);
+        x.restore();
+        Due.is("costs of the image", x.count(14), 3);
+        Due.is("torn of the image", x.count(13), 2);
     }
 
     private static void imageRefusals() {
@@ -209,6 +245,10 @@ public final class WholeTest {
         Due.type(x, "s1,");
         Due.is("digest of a square and a page", x.digest(), digestOf(x, "s1,"));
         Due.is("digest again", x.digest(), x.digest());
+        x = Due.square("m1,m2,f3;");
+        Due.is("digest with a grudge of a mild one", x.digest(), digestOf(x, ""));
+        x = Due.square("m1,m2,f3;021015016106025");
+        Due.is("digest with a wall to build", x.digest(), digestOf(x, ""));
         x = Due.square("s1,m2,f3;017106125028");
         x.build(0, 2, true);
         x.see(1, 0, 1);

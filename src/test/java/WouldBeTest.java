@@ -4,6 +4,7 @@ public final class WouldBeTest {
         settles();
         settlesLate();
         calms();
+        calmOfEachPair();
         calmRefusals();
         calmTwentyTimes();
         arbiters();
@@ -63,6 +64,16 @@ public final class WouldBeTest {
         Due.is("later than that", x.settles(0), -1);
         Due.is("house 0 then", x.settles(10), -1);
         Due.is("house 2 then", x.settles(12), -1);
+        x = Due.square("s0,f9,s3,f8;028206011239101328");
+        Due.is("behind 41 mornings", x.settles(0), -1);
+        x.morning();
+        Due.is("a morning later", x.settles(0), 40);
+        x = Due.square("s4,s5,s7;206101014215028125");
+        for (int times = 0; times < 4; times++) {
+            Due.is("it never settles", x.settles(0), -1);
+            Due.is("nowhere", x.settles(10), -1);
+            Due.mornings(x, 41);
+        }
     }
 
     private static void calm(QuarrelWindows x, int houses, int mornings, int... due) {
@@ -97,6 +108,23 @@ public final class WouldBeTest {
         calm(x, 1, 0, 3, 1, 2, 3);
         x.build(0, 2, true);
         calm(x, 17, 0, 2, 1, 3);
+    }
+
+    private static void calmOfEachPair() {
+        QuarrelWindows x = new QuarrelWindows();
+        for (int a = 0; a < 6; a++) {
+            for (int b = a + 1; b < 6; b++) {
+                Due.type(x, "h1,h2,h3,h4,h5,h6;" + b + a + "3");
+                x.square();
+                Due.is("calm by pair", x.calm(63, 2, 10), 10 * a + b);
+                x.quarrel(a, b, 1);
+                if (b < 4) {
+                    Due.is("arbiter by pair", x.arbiter(1, 10), 10 * a + b);
+                }
+                Due.is("wall between a pair", x.walls(1, 0), 10 * a + b);
+                Due.is("all at the river then", x.walls(1, 1), 6);
+            }
+        }
     }
 
     private static void calmRefusals() {
@@ -167,6 +195,18 @@ public final class WouldBeTest {
         arbiter("h1,h2,h3,h4;015105021132201311", 1, 1);
         arbiter("h1,h2,h3,h4,h5,h6;011101231321451541", 1, 2, 1);
         arbiter("h1,h2,h3,h4,h5,h6;011101231321451541", 3, 0, 1, 23, 45);
+        arbiterOfLatePairs();
+    }
+
+    private static void arbiterOfLatePairs() {
+        QuarrelWindows x = new QuarrelWindows();
+        for (int a = 2; a < 6; a++) {
+            for (int b = Math.max(a + 1, 4); b < 6; b++) {
+                Due.type(x, "h1,h2,h3,h4,h5,h6;" + a + b + "1" + b + a + "3");
+                x.square();
+                Due.is("arbiter by a late pair", x.arbiter(1, 10), 10 * a + b);
+            }
+        }
     }
 
     private static void arbiterRefusals() {
