@@ -324,6 +324,9 @@ public final class PageTest {
         x.see(0, 1, 1);
         x.calm(1, 0, 0);
         x.arbiter(1, 0);
+        x.tenant(3, 2);
+        x.quarrel(3, 0, 2);
+        x.morning();
         x.image();
         return x;
     }
@@ -331,8 +334,9 @@ public final class PageTest {
     private static void promise5AnotherSquare() {
         Due.promise(5, "another one is gone, with all that was");
         QuarrelWindows x = lived();
-        Due.is("torn", x.count(13), 2);
+        Due.is("torn", x.count(13), 4);
         Due.is("costs", x.count(14), 3);
+        Due.is("turned", x.count(10), 1);
         Due.type(x, "h1,h2,h3;");
         Due.is("another square", x.square(), 3);
         int[] due = {3, 0, 0, 3, 6, 0, 0, 3, 0, 0, 0, 0, 0, 0, 0, 0, 0, 2, 1, 1};
@@ -373,7 +377,7 @@ public final class PageTest {
         Due.is("square", x.square(), QuarrelWindows.STATE);
         Due.is("the old square stays", x.count(0), 4);
         Due.is("the page stays", x.count(16), 8);
-        Due.is("the image stays", x.restore(), 2);
+        Due.is("the image stays", x.restore(), 3);
         x.letter(';');
         Due.is("what was lacking", x.square(), 3);
     }

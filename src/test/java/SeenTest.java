@@ -237,6 +237,19 @@ public final class SeenTest {
         span(x, 0, 1, 21, 0, 20, 5);
         x.see(1, 0, 0);
         span(x, 0, 1, 0, -1, -1, -1);
+        Due.promise(24, "LOOK: where the HOUSE FRONTS, no other one");
+        x = Due.square("h1,h2,m3;");
+        span(x, 2, 1, 21, 0, 20, 5);
+        span(x, 1, 2, 21, 0, 20, 0);
+        x = Due.square("h1,h2,h3,h4,h5,m6;");
+        x.see(5, -1, 3);
+        x.see(5, 4, 0);
+        // 1 to 6 are left: behind one morning 2 and 4, behind two 4 and 2.
+        span(x, 5, 4, 6, 1, 6, 1);
+        Due.promise(24, "LOOK: of like ones the least, where all 21 are left");
+        x = Due.square("m1,h2,h3;");
+        x.build(0, 1, true);
+        span(x, 0, 1, 21, 0, 20, 0);
     }
 
     private static void promise24Refused() {

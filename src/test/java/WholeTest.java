@@ -455,6 +455,10 @@ public final class WholeTest {
         Due.is("one that never settles", x.digest(), digestOf(x, ""));
         x = Due.square("h1,h2,h3;");
         Due.is("the least one", x.digest(), digestOf(x, ""));
+        x = Due.square("m1,h2,h3;014022");
+        Due.is("no wall to build now", x.walls(0, 0), -1);
+        Due.is("a wall to build behind a morning", x.walls(1, 0), 1);
+        Due.is("with it", x.digest(), digestOf(x, ""));
     }
 
     private static void promise29Wraps() {
