@@ -469,9 +469,10 @@ public final class WholeTest {
         Due.is("it is more than a long", all.bitLength() > 63 ? 1 : 0, 1);
         Due.is("of nothing", x.digest(), all.longValue());
         int below = 0;
-        for (int letter = 1; letter <= 38; letter++) {
-            x.letter(126);
-            Due.is("of " + letter, x.digest(), digestOf(x, "~".repeat(letter)));
+        for (int letters = 1; letters <= 38; letters++) {
+            String text = "~".repeat(letters);
+            x = Due.page(text);
+            Due.is("of " + letters, x.digest(), digestOf(x, text));
             below += x.digest() < 0 ? 1 : 0;
         }
         Due.is("some are below 0, some above", below > 0 && below < 38 ? 1 : 0, 1);
